@@ -159,6 +159,7 @@ public final class FaultTest {
         Check.dueFault("select ?x{" + eleven + "{}.optional{}}", 10 + 69);
         Check.dueGood("select ?x{{a b c}.{a b c}.{a b c}.{a b c}.{a b c}.{a b c}}");
         Check.dueFault("select ?x{{a b c}.{a b c}.{a b c}.{a b c}.{a b c}.{a b c}.filter}", 58);
+        Check.dueFault("select ?x{{a b c}.{a b c}.{a b c}.{a b c}.{a b c}.{a b c}.}", 58);
         Check.dueFault("select ?x{" + "{}.".repeat(12) + "{}}", 46);
     }
 
@@ -177,6 +178,7 @@ public final class FaultTest {
         Check.dueGood("select ?x{" + eleven + "{}}");
         Check.dueFault("select ?x{" + eleven + "{}union{}}", 10 + 84);
         Check.dueFault("select ?x{" + eleven + "{}union a}", 10 + 85);
+        Check.dueFault("select ?x{" + eleven + "{}union}", 10 + 84);
         Check.dueGood("select ?x{" + "{}union".repeat(9) + "{}." + "{}union".repeat(9) + "{}}");
     }
 

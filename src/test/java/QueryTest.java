@@ -140,6 +140,9 @@ public final class QueryTest {
         rowsDue(store, "select ?x ?y{a p ?x.a q ?y.{}union{a p 1}}", "IllegalStateException");
         rowsDue(store, "select ?x ?y{a p ?x.optional{a q ?y}}", "150");
         Check.add(store, "b r 1");
+        rowsDue(store, "select ?x{{a p ?x.a q ?y}union{a r ?x}}", "150");
+        rowsDue(store, "select ?x{{a p ?x.a q ?y}union{b r ?x}}", "IllegalStateException");
+        rowsDue(store, "select ?x{{a p ?x.a q ?y}union{b r ?x}.filter ?x > 99}", "IllegalStateException");
         rowsDue(store, "select ?x ?y{{a p ?x}union{?z r 1}.a q ?y}", "IllegalStateException");
         rowsDue(store, "select ?x ?y{{a p ?x}union{?z r 1}.a q ?y}limit 1", "IllegalStateException");
         rowsDue(store, "select distinct ?w{{a p ?x}union{?z r 1}.a q ?y}", "IllegalStateException");

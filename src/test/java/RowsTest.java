@@ -5,6 +5,7 @@ public final class RowsTest {
         orderByWhatIsNotThere();
         distinct();
         limit();
+        sixColumns();
         cells();
         counts();
         Check.end();
@@ -63,6 +64,16 @@ public final class RowsTest {
         Check.dueRows(store, "select distinct ?x{?x p ?y}limit 4", "a, b, c");
         Check.dueRows(store, "select ?y{?x p ?y}order ?y desc limit 2", "9, 3");
         Check.dueRows(store, "select ?y{?x p ?y}", "0, 1, 2, 3, 9");
+    }
+
+    private static void sixColumns() {
+        TripleStore store = Check.storeOf("a p 1", "a p 2");
+        Check.dueRows(store, "select ?a ?b ?c ?a ?b ?d{{?a ?b ?c}union{?a ?b ?c.?a ?b ?d.filter ?c = ?d}}",
+            "a p 1 a p -, a p 1 a p 1, a p 2 a p -, a p 2 a p 2");
+        Check.dueRows(store, "select ?a ?b ?a ?b ?a ?b{?a ?b ?c}", "a p a p a p, a p a p a p");
+        Check.dueRows(store, "select distinct ?a ?b ?a ?b ?a ?b{?a ?b ?c}", "a p a p a p");
+        Check.dueRows(store, "select ?a ?b ?c ?d ?e ?f{?a ?b ?c.?d ?e ?f.filter ?c ! ?f}",
+            "a p 1 a p 2, a p 2 a p 1");
     }
 
     private static void cells() {
