@@ -112,9 +112,11 @@ final class Check {
 
     static String rows(TripleStore store) {
         StringBuilder rows = new StringBuilder();
-        for (int row = 0; row < store.count(2); row++) {
+        int columns = store.count(1);
+        int size = store.count(2);
+        for (int row = 0; row < size; row++) {
             rows.append(row == 0 ? "" : ", ");
-            for (int column = 0; column < store.count(1); column++) {
+            for (int column = 0; column < columns; column++) {
                 rows.append(column == 0 ? "" : " ").append(cell(store, row, column));
             }
         }

@@ -2,7 +2,11 @@ import java.util.Random;
 
 /** Promises 1 to 13: runs of calls on the program and on the model, which must answer alike. */
 public final class ModelTest {
-    private static final int RUNS = 400;
+    private static final int RUNS = 1200;
+    private static final int CELLS = 16;
+    private static final int LAST_CALL = 512;
+    // As many as a query's characters, its answer and its cells take, and some.
+    private static final int LONGEST_STEP = 48;
     private static final String[] WORDS = {"a", "ab", "b", "c", "abcdefgh"};
     private static final String[] PREDICATES = {"p", "q"};
     private static final String[] NUMBERS = {"0", "1", "9", "10", "9999"};
@@ -42,7 +46,7 @@ public final class ModelTest {
         for (int i = triples == 48 ? 60 : random.nextInt(triples); i > 0; i--) {
             change(true);
         }
-        while (calls < 480) {
+        while (calls < LAST_CALL - LONGEST_STEP) {
             int choice = random.nextInt(20);
             if (choice < 6) {
                 change(random.nextInt(3) > 0);
@@ -52,6 +56,7 @@ public final class ModelTest {
                 askOne();
             }
         }
+        Check.due(run + "not more calls than are promised", calls <= LAST_CALL, true);
     }
 
     private void same(String what, Check.Call program, Check.Call plain) {
@@ -129,16 +134,22 @@ public final class ModelTest {
         faults += program.equals("IllegalArgumentException") ? 1 : 0;
         tooMany += program.equals("IllegalStateException") ? 1 : 0;
         same("fault of " + query, store::fault, model::fault);
-        // Every cell is looked at, though it would be more than an object's 512 calls.
-        for (int row = 0; row <= model.count(2); row++) {
-            for (int column = 0; column <= model.count(1); column++) {
-                int r = row;
-                int c = column;
-                Check.due(run + "cell " + r + " " + c + " of " + query, Check.answer(() -> store.cell(r, c)),
-                    Check.answer(() -> model.cell(r, c)));
-            }
-        }
+        cells(query);
         counts();
+    }
+
+    /** All cells and the places behind them, or some of them if they are many. */
+    private void cells(String query) {
+        int rows = model.count(2) + 1;
+        int columns = model.count(1) + 1;
+        int places = rows * columns;
+        for (int i = 0; i < Math.min(places, CELLS); i++) {
+            int place = places <= CELLS ? i : random.nextInt(places);
+            int row = place / columns;
+            int column = place % columns;
+            same("cell " + row + " " + column + " of " + query, () -> store.cell(row, column),
+                () -> model.cell(row, column));
+        }
     }
 
     private String query() {
