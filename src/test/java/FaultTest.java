@@ -105,6 +105,11 @@ public final class FaultTest {
         Check.dueFault("select ?x{union{}}", 10);
         Check.dueFault("select ?x{{}{}}", 12);
         Check.dueFault("select ?x{{}union a b c}", 18);
+        Check.dueFault("select ?x{{}union}", 17);
+        Check.dueFault("select ?x{{}union.a b c}", 17);
+        Check.dueFault("select ?x{{ann}union{}}", 14);
+        Check.dueFault("select ?x{optional}", 18);
+        Check.dueFault("select ?x{minus.a b c}", 15);
         Check.dueFault("select ?x{}union{}", 11);
         Check.dueFault("select ?x{}order a", 17);
         Check.dueFault("select ?x{}order ?x ?x", 20);
