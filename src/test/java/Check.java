@@ -9,15 +9,34 @@ final class Check {
 
     private static int made = 0;
     private static int wrong = 0;
+    private static int sentences = 0;
+    private static int madeBefore = 0;
+    private static String sentence = "";
 
     private Check() {
+    }
+
+    /** What is due from here on shows this sentence of the document. */
+    static void sentence(String quoted) {
+        endSentence();
+        sentences++;
+        madeBefore = made;
+        sentence = quoted;
+    }
+
+    private static void endSentence() {
+        if (!sentence.isEmpty() && made == madeBefore) {
+            wrong++;
+            System.out.println("no test of \"" + sentence + "\"");
+        }
     }
 
     static void due(String what, Object got, Object due) {
         made++;
         if (!Objects.equals(got, due)) {
             wrong++;
-            System.out.println(what + ": answered " + got + ", due is " + due);
+            String where = sentence.isEmpty() ? "" : " (\"" + sentence + "\")";
+            System.out.println(what + ": answered " + got + ", due is " + due + where);
         }
     }
 
@@ -35,7 +54,9 @@ final class Check {
     }
 
     static void end() {
-        System.out.println(made + " answers, " + wrong + " wrong");
+        endSentence();
+        String shown = sentences == 0 ? "" : sentences + " sentences, ";
+        System.out.println(shown + made + " answers, " + wrong + " wrong");
         if (wrong != 0 || made == 0) {
             System.exit(1);
         }
@@ -123,6 +144,15 @@ final class Check {
         return rows.toString();
     }
 
+    /** All that the calls of the face tell of an object without changing it. */
+    static String state(TripleStore store) {
+        StringBuilder state = new StringBuilder();
+        for (int what = 0; what <= 6; what++) {
+            state.append(store.count(what)).append(' ');
+        }
+        return state.append("fault ").append(store.fault()).append(" rows ").append(rows(store)).toString();
+    }
+
     static String cell(TripleStore store, int row, int column) {
         try {
             return text(store.cell(row, column));
@@ -131,6 +161,12 @@ final class Check {
         } catch (NoSuchElementException e) {
             return "none";
         }
+    }
+
+    /** What ask answers: how many rows, or the name of what it throws. */
+    static String asked(TripleStore store, String query) {
+        write(store, query);
+        return answer(store::ask);
     }
 
     static void dueRows(TripleStore store, String query, String due) {
