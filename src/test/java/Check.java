@@ -10,24 +10,29 @@ final class Check {
     private static int made = 0;
     private static int wrong = 0;
     private static int sentences = 0;
-    private static int madeBefore = 0;
     private static String sentence = "";
 
     private Check() {
     }
 
-    /** What is due from here on shows this sentence of the document. */
-    static void sentence(String quoted) {
-        endSentence();
-        sentences++;
-        madeBefore = made;
+    /** A test of one sentence of the document: it has answers of its own, and lets the others run. */
+    static void sentence(String quoted, Runnable test) {
+        int before = made;
         sentence = quoted;
+        sentences++;
+        due("what it throws", thrown(test), "nothing");
+        if (made == before + 1) {
+            due("answers", made - before - 1, "some");
+        }
+        sentence = "";
     }
 
-    private static void endSentence() {
-        if (!sentence.isEmpty() && made == madeBefore) {
-            wrong++;
-            System.out.println("no test of \"" + sentence + "\"");
+    private static String thrown(Runnable test) {
+        try {
+            test.run();
+            return "nothing";
+        } catch (RuntimeException e) {
+            return e + " at " + e.getStackTrace()[0];
         }
     }
 
@@ -54,7 +59,6 @@ final class Check {
     }
 
     static void end() {
-        endSentence();
         String shown = sentences == 0 ? "" : sentences + " sentences, ";
         System.out.println(shown + made + " answers, " + wrong + " wrong");
         if (wrong != 0 || made == 0) {
@@ -103,6 +107,14 @@ final class Check {
         TripleStore store = new TripleStore();
         for (String triple : triples) {
             due("add " + triple, add(store, triple), "1");
+        }
+        return store;
+    }
+
+    static TripleStore fullStore() {
+        TripleStore store = new TripleStore();
+        for (int n = 0; n < 48; n++) {
+            store.add('a', 'b', -1 - n);
         }
         return store;
     }

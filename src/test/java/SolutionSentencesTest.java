@@ -4,55 +4,69 @@ public final class SolutionSentencesTest {
     private static final String[] SIGNS = {"=", "!", "<", ">"};
 
     public static void main(String[] args) {
-        compatible();
-        joined();
-        beginning();
-        patternOfNone();
-        patternOfMany();
-        variableTwice();
-        groupsJoined();
-        groupsByThemselves();
-        optionalWithNone();
-        optionalWithSome();
-        minusCompatible();
-        minusSharing();
-        filtersAtTheEnd();
-        filtersOfTheirGroup();
-        allTests();
-        bound();
-        same();
-        notTheSame();
-        less();
-        not();
-        sideThatIsThere();
-        rowsOfSelected();
-        distinctRows();
-        ordered();
-        orderedWithoutTerm();
-        thenByOwnTerms();
-        distinctAndOrdered();
-        limit();
-        tooManyJoins();
-        tooManyInEveryKind();
-        tooManyWithin();
-        countedAsMade();
-        unionAndTooMany();
-        failing();
+        Check.sentence("Two are COMPATIBLE if no variable has different terms in them",
+            SolutionSentencesTest::compatible);
+        Check.sentence("JOINED they give what either one gives", SolutionSentencesTest::joined);
+        Check.sentence("beginning with the one that gives nothing", SolutionSentencesTest::beginning);
+        Check.sentence("those that the pattern has: one for each triple that fits it",
+            SolutionSentencesTest::patternOfNone);
+        Check.sentence("every solution is joined with every one that it is compatible with",
+            SolutionSentencesTest::patternOfMany);
+        Check.sentence("(a variable that stands twice having one term)", SolutionSentencesTest::variableTwice);
+        Check.sentence("A GROUP, or several with union: likewise with all that these have",
+            SolutionSentencesTest::groupsJoined);
+        Check.sentence("of each one by itself", SolutionSentencesTest::groupsByThemselves);
+        Check.sentence("optional: a solution that is compatible with none of those that the GROUP has stays",
+            SolutionSentencesTest::optionalWithNone);
+        Check.sentence("the others are joined", SolutionSentencesTest::optionalWithSome);
+        Check.sentence("minus: a solution goes if it is compatible with one that the GROUP has",
+            SolutionSentencesTest::minusCompatible);
+        Check.sentence("and there is a variable that both give", SolutionSentencesTest::minusSharing);
+        Check.sentence("Filters: at the end of the GROUP", SolutionSentencesTest::filtersAtTheEnd);
+        Check.sentence("the GROUP in which they stand", SolutionSentencesTest::filtersOfTheirGroup);
+        Check.sentence("only the solutions are left for which all of its tests hold", SolutionSentencesTest::allTests);
+        Check.sentence("bound: it gives the variable", SolutionSentencesTest::bound);
+        Check.sentence("= both sides are there and the same", SolutionSentencesTest::same);
+        Check.sentence("! they are there and not the same", SolutionSentencesTest::notTheSame);
+        Check.sentence("< and > the left one is less, or the right one is", SolutionSentencesTest::less);
+        Check.sentence("not: the test does not hold.", SolutionSentencesTest::not);
+        Check.sentence("(A side is there if it is a term or a variable that is given one.)",
+            SolutionSentencesTest::sideThatIsThere);
+        Check.sentence("ROWS: of every solution of the first GROUP the terms of the selected variables, in order",
+            SolutionSentencesTest::rowsOfSelected);
+        Check.sentence("with distinct each row once", SolutionSentencesTest::distinctRows);
+        Check.sentence("They stand by the term of the order's variable in the solution (falling with desc",
+            SolutionSentencesTest::ordered);
+        Check.sentence("a variable without one is less than all)", SolutionSentencesTest::orderedWithoutTerm);
+        Check.sentence("then by their own terms, from the first on, rising (likewise).",
+            SolutionSentencesTest::thenByOwnTerms);
+        Check.sentence("With distinct and an order a row stands by that of its solutions by which it stands first.",
+            SolutionSentencesTest::distinctAndOrdered);
+        Check.sentence("limit: only the first so many.", SolutionSentencesTest::limit);
+        Check.sentence("No list may have more than 150 solutions while it is found",
+            SolutionSentencesTest::tooManyJoins);
+        Check.sentence("No list may have more than 150 solutions", SolutionSentencesTest::tooManyInEveryKind);
+        Check.sentence("No list may have more than 150 solutions while it is found",
+            SolutionSentencesTest::tooManyWithin);
+        Check.sentence("(joins are counted as they are made)", SolutionSentencesTest::countedAsMade);
+        Check.sentence("A GROUP, or several with union: likewise with all that these have, of each one by itself.",
+            SolutionSentencesTest::unionAndTooMany);
+        Check.sentence("the query fails otherwise", SolutionSentencesTest::failing);
         Check.end();
     }
 
     private static void compatible() {
-        Check.sentence("Two are COMPATIBLE if no variable has different terms in them");
         TripleStore store = Check.storeOf("a p 1", "b p 2", "a q 1", "b q 3", "c q 2");
         Check.dueRows(store, "select ?x ?y{?x p ?y.?x q ?y}", "a 1");
         Check.dueRows(store, "select ?x ?y{?x p ?y.{?x q ?y}}", "a 1");
         Check.dueRows(store, "select ?x ?z{?x p ?y.?z q ?y}", "a a, b c");
         Check.dueRows(store, "select ?x ?z{?x p 1.?z q 3}", "a b");
+        Check.dueRows(store, "select ?x ?z{?x p 1.{?z q 3}}", "a b");
+        Check.dueRows(store, "select ?x ?y{?x p ?y.{}}", "a 1, b 2");
         Check.dueRows(store, "select ?x ?y{{}union{?x p 2}.?x q ?y}", "a 1, b 3, b 3, c 2");
     }
 
     private static void joined() {
-        Check.sentence("JOINED they give what either one gives");
         TripleStore store = Check.storeOf("a p 1", "b q 2");
         Check.dueRows(store, "select ?w ?x ?y ?z{?w p ?x.?y q ?z}", "a 1 b 2");
         Check.dueRows(store, "select ?w ?x ?y ?z{{?w p ?x}.{?y q ?z}}", "a 1 b 2");
@@ -61,7 +75,6 @@ public final class SolutionSentencesTest {
     }
 
     private static void beginning() {
-        Check.sentence("beginning with the one that gives nothing");
         TripleStore store = new TripleStore();
         Check.dueRows(store, "select ?x{}", "-");
         Check.dueRows(store, "select ?x ?y{{{{}}}}", "- -");
@@ -70,10 +83,14 @@ public final class SolutionSentencesTest {
         Check.dueRows(store, "select ?x{minus{}}", "-");
         Check.dueRows(store, "select ?x{optional{?x p ?y}}", "-");
         Check.dueRows(store, "select ?x{filter a=b}", "");
+        Check.add(store, "a p 1");
+        Check.dueRows(store, "select ?x ?y{?x p ?y.{}}", "a 1");
+        Check.dueRows(store, "select ?x ?y{}", "- -");
+        Check.dueRows(store, "select ?x ?y{?x p ?y.{}.{}}", "a 1");
+        Check.dueRows(store, "select ?x ?y{{?x p ?y}union{}}", "- -, a 1");
     }
 
     private static void patternOfNone() {
-        Check.sentence("those that the pattern has: one for each triple that fits it");
         Check.dueRows(new TripleStore(), "select ?x{?x ?y ?z}", "");
         TripleStore store = Check.storeOf("a p 1");
         Check.dueRows(store, "select ?x{a p 1}", "-");
@@ -88,7 +105,6 @@ public final class SolutionSentencesTest {
     }
 
     private static void patternOfMany() {
-        Check.sentence("every solution is joined with every one that it is compatible with");
         TripleStore store = new TripleStore();
         for (int n = 0; n < 48; n++) {
             store.add('a', 'p', -1 - n);
@@ -101,7 +117,6 @@ public final class SolutionSentencesTest {
     }
 
     private static void variableTwice() {
-        Check.sentence("(a variable that stands twice having one term)");
         TripleStore store = Check.storeOf("a a a", "a a b", "a b a", "b a a", "a b c", "c a 1");
         Check.dueRows(store, "select ?x ?y{?x ?x ?y}", "a a, a b");
         Check.dueRows(store, "select ?x ?y{?x ?y ?x}", "a a, a b");
@@ -111,7 +126,6 @@ public final class SolutionSentencesTest {
     }
 
     private static void groupsJoined() {
-        Check.sentence("A GROUP, or several with union: likewise with all that these have");
         TripleStore store = Check.storeOf("a p 1", "b p 2", "a q 3", "c q 4");
         Check.dueRows(store, "select ?x{{?x p ?y}}", "a, b");
         Check.dueRows(store, "select ?x{{?x p ?y}union{?x q ?y}}", "a, a, b, c");
@@ -124,7 +138,6 @@ public final class SolutionSentencesTest {
     }
 
     private static void groupsByThemselves() {
-        Check.sentence("of each one by itself");
         TripleStore store = Check.storeOf("a p 1", "b p 2", "a q 3", "c q 4");
         Check.dueRows(store, "select ?x{?x p ?y.{filter bound ?x}}", "");
         Check.dueRows(store, "select ?x{?x p ?y.{filter not bound ?x}}", "a, b");
@@ -135,7 +148,6 @@ public final class SolutionSentencesTest {
     }
 
     private static void optionalWithNone() {
-        Check.sentence("optional: a solution that is compatible with none of those that the GROUP has stays");
         TripleStore store = Check.storeOf("a p 1", "b p 2", "a q 3");
         Check.dueRows(store, "select ?x ?z{?x p ?y.optional{?x q ?z}}", "a 3, b -");
         Check.dueRows(store, "select ?x ?z{?x p ?y.optional{?x r ?z}}", "a -, b -");
@@ -146,7 +158,6 @@ public final class SolutionSentencesTest {
     }
 
     private static void optionalWithSome() {
-        Check.sentence("the others are joined");
         TripleStore store = Check.storeOf("a p 1", "b p 2", "a q 3", "a q 4");
         Check.dueRows(store, "select ?x ?z{?x p ?y.optional{?x q ?z}}", "a 3, a 4, b -");
         Check.dueRows(store, "select ?x ?z{?x p ?y.optional{a q ?z}}", "a 3, a 4, b 3, b 4");
@@ -156,7 +167,6 @@ public final class SolutionSentencesTest {
     }
 
     private static void minusCompatible() {
-        Check.sentence("minus: a solution goes if it is compatible with one that the GROUP has");
         TripleStore store = Check.storeOf("a p 1", "b p 2", "c p 2", "a q 1", "b q 9");
         Check.dueRows(store, "select ?x{?x p ?y.minus{?x q ?z}}", "c");
         Check.dueRows(store, "select ?x{?x p ?y.minus{?x q ?y}}", "b, c");
@@ -167,7 +177,6 @@ public final class SolutionSentencesTest {
     }
 
     private static void minusSharing() {
-        Check.sentence("and there is a variable that both give");
         TripleStore store = Check.storeOf("a p 1", "b p 2", "a q 1");
         Check.dueRows(store, "select ?x{?x p ?y.minus{}}", "a, b");
         Check.dueRows(store, "select ?x{?x p ?y.minus{a q 1}}", "a, b");
@@ -181,7 +190,6 @@ public final class SolutionSentencesTest {
     }
 
     private static void filtersAtTheEnd() {
-        Check.sentence("Filters: at the end of the GROUP");
         TripleStore store = Check.storeOf("a p 1", "b p 2");
         Check.dueRows(store, "select ?x{filter ?y = 2.?x p ?y}", "b");
         Check.dueRows(store, "select ?x{filter not bound ?x.?x p ?y}", "");
@@ -191,7 +199,6 @@ public final class SolutionSentencesTest {
     }
 
     private static void filtersOfTheirGroup() {
-        Check.sentence("the GROUP in which they stand");
         TripleStore store = Check.storeOf("a p 1", "b p 2");
         Check.dueRows(store, "select ?x{{?x p ?y}.{filter ?y = 2}}", "");
         Check.dueRows(store, "select ?x{{?x p ?y.filter ?y = 2}union{?x p ?y}}", "a, b, b");
@@ -200,7 +207,6 @@ public final class SolutionSentencesTest {
     }
 
     private static void allTests() {
-        Check.sentence("only the solutions are left for which all of its tests hold");
         TripleStore store = Check.storeOf("a p 1", "a p 2", "a p 3", "a p 4");
         Check.dueRows(store, "select ?x{a p ?x.filter ?x > 1.filter ?x < 4}", "2, 3");
         Check.dueRows(store, "select ?x{filter ?x ! 3.a p ?x.filter ?x > 1.filter ?x < 4}", "2");
@@ -214,7 +220,6 @@ public final class SolutionSentencesTest {
     }
 
     private static void bound() {
-        Check.sentence("bound: it gives the variable");
         holds("bound ?x", true);
         holds("bound ?n", true);
         holds("bound ?u", false);
@@ -222,7 +227,6 @@ public final class SolutionSentencesTest {
     }
 
     private static void same() {
-        Check.sentence("= both sides are there and the same");
         holds("?n=5", true);
         holds("5=?n", true);
         holds("?x=w", true);
@@ -237,7 +241,6 @@ public final class SolutionSentencesTest {
     }
 
     private static void notTheSame() {
-        Check.sentence("! they are there and not the same");
         holds("?n!6", true);
         holds("w!?n", true);
         holds("?x!?n", true);
@@ -251,7 +254,6 @@ public final class SolutionSentencesTest {
     }
 
     private static void less() {
-        Check.sentence("< and > the left one is less, or the right one is");
         String[] rising = {"0", "4", "9999", "a", "w"};
         for (int i = 0; i < rising.length; i++) {
             for (int j = 0; j < rising.length; j++) {
@@ -272,7 +274,6 @@ public final class SolutionSentencesTest {
     }
 
     private static void not() {
-        Check.sentence("not: the test does not hold.");
         holds("not bound ?x", false);
         holds("not bound ?u", true);
         holds("not ?n=5", false);
@@ -287,7 +288,6 @@ public final class SolutionSentencesTest {
     }
 
     private static void sideThatIsThere() {
-        Check.sentence("(A side is there if it is a term or a variable that is given one.)");
         for (String sign : SIGNS) {
             for (String term : new String[] {"0", "9999", "a", "zzzzzzzz", "?n", "?x"}) {
                 holds("?u" + sign + term, false);
@@ -302,7 +302,6 @@ public final class SolutionSentencesTest {
     }
 
     private static void rowsOfSelected() {
-        Check.sentence("ROWS: of every solution of the first GROUP the terms of the selected variables, in order");
         TripleStore store = Check.storeOf("a p 1", "b p 2");
         Check.dueRows(store, "select ?y ?x{?x p ?y}", "1 a, 2 b");
         Check.dueRows(store, "select ?x ?x ?w ?y ?x ?y{?x p ?y}", "a a - 1 a 1, b b - 2 b 2");
@@ -312,7 +311,6 @@ public final class SolutionSentencesTest {
     }
 
     private static void distinctRows() {
-        Check.sentence("with distinct each row once");
         TripleStore store = Check.storeOf("a p 1", "a p 2", "b p 1", "b q 1");
         Check.dueRows(store, "select ?x{?x ?p ?y}", "a, a, b, b");
         Check.dueRows(store, "select distinct ?x{?x ?p ?y}", "a, b");
@@ -323,7 +321,6 @@ public final class SolutionSentencesTest {
     }
 
     private static void ordered() {
-        Check.sentence("They stand by the term of the order's variable in the solution (falling with desc");
         TripleStore store = Check.storeOf("a p 2", "b p 10", "c p x", "d p 9");
         Check.dueRows(store, "select ?x{?x p ?y}order ?y", "a, d, b, c");
         Check.dueRows(store, "select ?x{?x p ?y}order ?y desc", "c, b, d, a");
@@ -332,7 +329,6 @@ public final class SolutionSentencesTest {
     }
 
     private static void orderedWithoutTerm() {
-        Check.sentence("a variable without one is less than all)");
         TripleStore store = Check.storeOf("z p 1", "b p 2", "c p 3", "b q 0", "c q zz");
         String query = "select ?x{?x p ?y.optional{?x q ?z}}order ?z";
         Check.dueRows(store, query, "z, b, c");
@@ -342,7 +338,6 @@ public final class SolutionSentencesTest {
     }
 
     private static void thenByOwnTerms() {
-        Check.sentence("then by their own terms, from the first on, rising (likewise).");
         TripleStore store = Check.storeOf("b p 2", "b p 1", "a p 2", "a p 1", "a q 0", "b q 0");
         Check.dueRows(store, "select ?x ?y{?x p ?y}", "a 1, a 2, b 1, b 2");
         Check.dueRows(store, "select ?y ?x{?x p ?y}", "1 a, 1 b, 2 a, 2 b");
@@ -353,7 +348,6 @@ public final class SolutionSentencesTest {
     }
 
     private static void distinctAndOrdered() {
-        Check.sentence("With distinct and an order a row stands by that of its solutions by which it stands first.");
         TripleStore store = Check.storeOf("a p 2", "a p 9", "b p 1", "b p 8", "c p 3", "c p 4");
         Check.dueRows(store, "select distinct ?x{?x p ?y}order ?y", "b, a, c");
         Check.dueRows(store, "select distinct ?x{?x p ?y}order ?y desc", "a, b, c");
@@ -363,7 +357,6 @@ public final class SolutionSentencesTest {
     }
 
     private static void limit() {
-        Check.sentence("limit: only the first so many.");
         TripleStore store = Check.storeOf("a p 3", "a p 1", "a p 2", "b p 1");
         String query = "select ?x ?y{?x p ?y}";
         Check.dueRows(store, query + "limit 0", "");
@@ -403,7 +396,6 @@ public final class SolutionSentencesTest {
     }
 
     private static void tooManyJoins() {
-        Check.sentence("No list may have more than 150 solutions while it is found");
         duePairs("select ?x{?x p ?y.?x q ?z}", "150", FAILS);
         duePairs("select ?y ?z{?x q ?y.?x p ?z}", "150", FAILS);
         duePairs("select ?x{?y p ?a.?z q ?b.filter ?y = ?z}", FAILS, FAILS);
@@ -419,7 +411,6 @@ public final class SolutionSentencesTest {
     }
 
     private static void tooManyInEveryKind() {
-        Check.sentence("No list may have more than 150 solutions");
         duePairs("select ?x{?x p ?y.{?x q ?z}}", "150", FAILS);
         duePairs("select ?x{{?x p ?y}.{?x q ?z}}", "150", FAILS);
         duePairs("select ?x{?x p ?y.{?x q ?z}union{?x r ?z}}", "150", FAILS);
@@ -433,7 +424,6 @@ public final class SolutionSentencesTest {
     }
 
     private static void tooManyWithin() {
-        Check.sentence("No list may have more than 150 solutions while it is found");
         duePairs("select ?x{{?x p ?y.?x q ?z}}", "150", FAILS);
         duePairs("select ?x{{{{?x p ?y.?x q ?z}}}}", "150", FAILS);
         duePairs("select ?x{optional{?x p ?y.?x q ?z}}", "150", FAILS);
@@ -446,7 +436,6 @@ public final class SolutionSentencesTest {
     }
 
     private static void countedAsMade() {
-        Check.sentence("(joins are counted as they are made)");
         duePairs("select ?x{?x p ?y.?x q ?z.filter a=b}", "0", FAILS);
         duePairs("select ?x{?x p ?y.?x q ?z.?x p 99}", "0", FAILS);
         duePairs("select ?x{?x p ?y.?x q ?z.minus{?x p 0}}", "0", FAILS);
@@ -459,7 +448,6 @@ public final class SolutionSentencesTest {
 
     /** A union's GROUPS are lists each, and what they are joined to is one: together they are none. */
     private static void unionAndTooMany() {
-        Check.sentence("A GROUP, or several with union: likewise with all that these have, of each one by itself.");
         String pairs = "{a p ?x.a q ?y}";
         duePairs("select ?x{b p ?x." + pairs + "union" + pairs + "}", "20", "20");
         duePairs("select ?x{a p ?x." + pairs + "union{b q ?x}}", "150", FAILS);
@@ -468,7 +456,6 @@ public final class SolutionSentencesTest {
     }
 
     private static void failing() {
-        Check.sentence("the query fails otherwise");
         TripleStore store = storeOfPairs(true);
         Check.dueRows(store, "select ?x{b p ?x}", "0");
         Check.dueRows(store, "select ?x ?y ?z{?x p ?y.?x q ?z}", "too many");

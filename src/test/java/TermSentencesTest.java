@@ -6,24 +6,30 @@ public final class TermSentencesTest {
     private static final long SEVEN_LETTERS = Check.packed("aaaaaaa");
 
     public static void main(String[] args) {
-        letters();
-        lengthsOfWords();
-        numbers();
-        packedWords();
-        shownNumbers();
-        numberBesideWord();
-        twoNumbers();
-        twoWords();
-        fullStore();
-        setOfTriples();
-        kindsOfTriples();
-        openOrNot();
-        seenAtOnce();
-        transactionsOfTheirOwn();
-        syncedUpToNow();
-        crashWithoutOthers();
-        crashWithOthers();
-        crashWithAnOpenOne();
+        Check.sentence("TERMS are WORDS, 1 to 8 small letters", TermSentencesTest::letters);
+        Check.sentence("TERMS are WORDS, 1 to 8 small letters", TermSentencesTest::lengthsOfWords);
+        Check.sentence("NUMBERS, 0 to 9999", TermSentencesTest::numbers);
+        Check.sentence("In calls and answers a word is a long, its letters' codes packed, the last one lowest",
+            TermSentencesTest::packedWords);
+        Check.sentence("a number n is -1 - n", TermSentencesTest::shownNumbers);
+        Check.sentence("Of two terms a number is the LESS one beside a word", TermSentencesTest::numberBesideWord);
+        Check.sentence("of two numbers the one with the less value", TermSentencesTest::twoNumbers);
+        Check.sentence("of two words the one that comes first in the alphabet (ab before abc before b)",
+            TermSentencesTest::twoWords);
+        Check.sentence("THE STORE is a set of at most 48 TRIPLES", TermSentencesTest::fullStore);
+        Check.sentence("THE STORE is a set", TermSentencesTest::setOfTriples);
+        Check.sentence("TRIPLES: a subject and a predicate, words, and an object, a term.",
+            TermSentencesTest::kindsOfTriples);
+        Check.sentence("A TRANSACTION is open or not (at first).", TermSentencesTest::openOrNot);
+        Check.sentence("Changes are seen at once", TermSentencesTest::seenAtOnce);
+        Check.sentence("outside of a transaction each one is a transaction of its own",
+            TermSentencesTest::transactionsOfTheirOwn);
+        Check.sentence("COMMITTED transactions are SYNCED or not: syncing takes all up to now.",
+            TermSentencesTest::syncedUpToNow);
+        Check.sentence("A CRASH leaves what the synced ones have made of the store",
+            TermSentencesTest::crashWithoutOthers);
+        Check.sentence("and the first so many of the others", TermSentencesTest::crashWithOthers);
+        Check.sentence("an open one is lost", TermSentencesTest::crashWithAnOpenOne);
         Check.end();
     }
 
@@ -43,7 +49,6 @@ public final class TermSentencesTest {
     }
 
     private static void letters() {
-        Check.sentence("TERMS are WORDS, 1 to 8 small letters");
         for (int code = 1; code < 256; code++) {
             String due = isSmallLetter(code) ? "1" : WRONG;
             dueAnywhere("code " + code, code, due);
@@ -59,7 +64,6 @@ public final class TermSentencesTest {
     }
 
     private static void lengthsOfWords() {
-        Check.sentence("TERMS are WORDS, 1 to 8 small letters");
         dueAnywhere("no letter", 0, WRONG);
         for (int letters = 1; letters <= 8; letters++) {
             dueAnywhere("a, " + letters, Check.packed("a".repeat(letters)), "1");
@@ -68,7 +72,6 @@ public final class TermSentencesTest {
     }
 
     private static void numbers() {
-        Check.sentence("NUMBERS, 0 to 9999");
         Check.due("0", put('a', 'a', -1), "1");
         Check.due("9999", put('a', 'a', -10000), "1");
         Check.due("10000", put('a', 'a', -10001), WRONG);
@@ -78,7 +81,6 @@ public final class TermSentencesTest {
     }
 
     private static void packedWords() {
-        Check.sentence("In calls and answers a word is a long, its letters' codes packed, the last one lowest");
         TripleStore store = new TripleStore();
         store.add(0x616263, 0x70, 0x6162636465666768L);
         Check.due("rows", Check.asked(store, "select ?x ?y ?z{?x ?y ?z.abc p abcdefgh}"), "1");
@@ -89,7 +91,6 @@ public final class TermSentencesTest {
     }
 
     private static void shownNumbers() {
-        Check.sentence("a number n is -1 - n");
         TripleStore store = new TripleStore();
         store.add('a', 'p', -1);
         store.add('a', 'p', -10000);
@@ -120,18 +121,15 @@ public final class TermSentencesTest {
     }
 
     private static void numberBesideWord() {
-        Check.sentence("Of two terms a number is the LESS one beside a word");
         dueRising("0", "a");
         dueRising("0", "9999", "a", "aaaaaaaa", "zzzzzzzz");
     }
 
     private static void twoNumbers() {
-        Check.sentence("of two numbers the one with the less value");
         dueRising("0", "1", "2", "9", "10", "11", "99", "100", "999", "1000", "9998", "9999");
     }
 
     private static void twoWords() {
-        Check.sentence("of two words the one that comes first in the alphabet (ab before abc before b)");
         dueRising("ab", "abc", "b");
         dueRising("a", "aa", "aaaaaaa", "aaaaaaaa", "aaaaaaab", "ab", "abaaaaaa", "az", "b", "ba", "y", "yzzzzzzz",
             "z", "za", "zzzzzzzy", "zzzzzzzz");
@@ -146,7 +144,6 @@ public final class TermSentencesTest {
     }
 
     private static void fullStore() {
-        Check.sentence("THE STORE is a set of at most 48 TRIPLES");
         TripleStore store = storeWith(48);
         Check.due("48", store.count(0), 48);
         Check.due("the 49th", Check.add(store, "b b b"), STATE);
@@ -164,7 +161,6 @@ public final class TermSentencesTest {
     }
 
     private static void setOfTriples() {
-        Check.sentence("THE STORE is a set");
         TripleStore store = Check.storeOf("a b c");
         Check.due("once more", Check.add(store, "a b c"), "0");
         Check.due("one", store.count(0), 1);
@@ -174,7 +170,6 @@ public final class TermSentencesTest {
     }
 
     private static void kindsOfTriples() {
-        Check.sentence("TRIPLES: a subject and a predicate, words, and an object, a term.");
         for (long number : new long[] {-1, -2, -10000}) {
             Check.due("subject " + number, put(number, 'a', 'a'), WRONG);
             Check.due("predicate " + number, put('a', number, 'a'), WRONG);
@@ -184,7 +179,6 @@ public final class TermSentencesTest {
     }
 
     private static void openOrNot() {
-        Check.sentence("A TRANSACTION is open or not (at first).");
         TripleStore store = new TripleStore();
         Check.due("none to commit", Check.answer(store::commit), STATE);
         Check.due("none to take back", Check.answer(store::rollback), STATE);
@@ -193,7 +187,6 @@ public final class TermSentencesTest {
     }
 
     private static void seenAtOnce() {
-        Check.sentence("Changes are seen at once");
         TripleStore store = Check.storeOf("a b c");
         Check.dueRows(store, OBJECTS, "c");
         store.begin();
@@ -209,7 +202,6 @@ public final class TermSentencesTest {
     }
 
     private static void transactionsOfTheirOwn() {
-        Check.sentence("outside of a transaction each one is a transaction of its own");
         TripleStore store = Check.storeOf("a b c", "a b d");
         Check.due("two", store.count(3), 2);
         Check.remove(store, "a b c");
@@ -220,7 +212,6 @@ public final class TermSentencesTest {
     }
 
     private static void syncedUpToNow() {
-        Check.sentence("COMMITTED transactions are SYNCED or not: syncing takes all up to now.");
         TripleStore store = Check.storeOf("a b c", "a b d");
         Check.due("both", store.sync(), 2);
         Check.add(store, "a b e");
@@ -230,7 +221,6 @@ public final class TermSentencesTest {
     }
 
     private static void crashWithoutOthers() {
-        Check.sentence("A CRASH leaves what the synced ones have made of the store");
         TripleStore store = new TripleStore();
         Check.due("an empty store", store.crash(0), 0);
         Check.add(store, "a b c");
@@ -245,7 +235,6 @@ public final class TermSentencesTest {
     }
 
     private static void crashWithOthers() {
-        Check.sentence("and the first so many of the others");
         String[] left = {"1", "1, 2", "2", "2", "2, 3, 4", "1, 2, 3, 4", "1, 2, 3, 4"};
         for (int keep = 0; keep < left.length; keep++) {
             TripleStore store = Check.storeOf("a a 1");
@@ -266,7 +255,6 @@ public final class TermSentencesTest {
     }
 
     private static void crashWithAnOpenOne() {
-        Check.sentence("an open one is lost");
         for (int keep : new int[] {0, 1, 2, 1000}) {
             TripleStore store = Check.storeOf("a a 1");
             store.begin();

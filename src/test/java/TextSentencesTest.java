@@ -17,44 +17,49 @@ public final class TextSentencesTest {
     private static final String OTHERS = "\"#$%&'()*+,-/:;@ABCXYZ[\\]^_`|~";
 
     public static void main(String[] args) {
-        longestText();
-        codes();
-        blanks();
-        wordTokens();
-        numberTokens();
-        variableTokens();
-        signTokens();
-        longWords();
-        longNumbers();
-        variablesOfNoOrManyLetters();
-        otherCharacters();
-        keys();
-        otherWords();
-        wholeQuery();
-        groups();
-        elements();
-        tests();
-        firstFault();
-        lackingToken();
-        emptyText();
-        seventhVariable();
-        seventhSelected();
-        thirteenthElement();
-        thirteenthElementOfAll();
-        fifthGroupWithin();
-        thirteenthGroup();
-        fifthNot();
+        Check.sentence("A QUERY is a text of up to 160 characters", TextSentencesTest::longestText);
+        Check.sentence("of codes 32 .. 126", TextSentencesTest::codes);
+        Check.sentence("TOKENS, blanks parting them", TextSentencesTest::blanks);
+        Check.sentence("a WORD, as many small letters as stand together", TextSentencesTest::wordTokens);
+        Check.sentence("a NUMBER, as many digits", TextSentencesTest::numberTokens);
+        Check.sentence("a VARIABLE, ? and the letters behind it", TextSentencesTest::variableTokens);
+        Check.sentence("and { } . = < > ! each", TextSentencesTest::signTokens);
+        Check.sentence("A WORD of more than 8 letters ... can not stand anywhere.", TextSentencesTest::longWords);
+        Check.sentence("a NUMBER of more than 4 digits ... can not stand anywhere.", TextSentencesTest::longNumbers);
+        Check.sentence("a VARIABLE with none or more than 8 letters ... can not stand anywhere.",
+            TextSentencesTest::variablesOfNoOrManyLetters);
+        Check.sentence("and other characters can not stand anywhere", TextSentencesTest::otherCharacters);
+        Check.sentence("The words select distinct order desc limit filter optional minus union not bound are KEYS",
+            TextSentencesTest::keys);
+        Check.sentence("other words are terms", TextSentencesTest::otherWords);
+        Check.sentence("QUERY: select [distinct] VARIABLE <VARIABLE> GROUP [order VARIABLE [desc]] [limit NUMBER] "
+            + "and nothing more.", TextSentencesTest::wholeQuery);
+        Check.sentence("GROUP: { [ELEMENT <. ELEMENT>] }.", TextSentencesTest::groups);
+        Check.sentence("ELEMENT: a PATTERN of three TERMS or VARIABLES; filter TEST; optional GROUP; minus GROUP; "
+            + "GROUP <union GROUP>.", TextSentencesTest::elements);
+        Check.sentence("TEST: not TEST; bound VARIABLE; or a SIDE, one of = < > !, a SIDE, each a term or a VARIABLE.",
+            TextSentencesTest::tests);
+        Check.sentence("THE FAULT is at the first token that can not stand there", TextSentencesTest::firstFault);
+        Check.sentence("(where one lacks, behind the last one's end", TextSentencesTest::lackingToken);
+        Check.sentence("0 in an empty text)", TextSentencesTest::emptyText);
+        Check.sentence("or that is one too many: the 7th different VARIABLE", TextSentencesTest::seventhVariable);
+        Check.sentence("a 7th selected one", TextSentencesTest::seventhSelected);
+        Check.sentence("the 13th ELEMENT (its first token)", TextSentencesTest::thirteenthElement);
+        Check.sentence("the 13th ELEMENT", TextSentencesTest::thirteenthElementOfAll);
+        Check.sentence("the { of a GROUP that would be the 5th within one another (the first GROUP is one)",
+            TextSentencesTest::fifthGroupWithin);
+        Check.sentence("or of a 13th one of one ELEMENT", TextSentencesTest::thirteenthGroup);
+        Check.sentence("a 5th not one behind another", TextSentencesTest::fifthNot);
         Check.end();
     }
 
     /** A query of so many characters that has the row 7. */
     private static String queryOf(int characters) {
-        String query = "select ?x{a b ?x}";
-        return query + " ".repeat(characters - query.length() - 8) + "limit 01";
+        String query = "select ?x{a b ?x";
+        return query + " ".repeat(characters - query.length() - 1) + "}";
     }
 
     private static void longestText() {
-        Check.sentence("A QUERY is a text of up to 160 characters");
         TripleStore store = Check.storeOf("a b 7");
         Check.write(store, queryOf(160));
         Check.due("160 are there", store.count(6), 160);
@@ -70,7 +75,6 @@ public final class TextSentencesTest {
     }
 
     private static void codes() {
-        Check.sentence("of codes 32 .. 126");
         for (int code = 0; code < 256; code++) {
             TripleStore store = new TripleStore();
             boolean good = code >= 32 && code <= 126;
@@ -88,7 +92,6 @@ public final class TextSentencesTest {
     }
 
     private static void blanks() {
-        Check.sentence("TOKENS, blanks parting them");
         Check.dueGood("   select   ?x   {   a   b   c   .   ?x   b   7   }   limit   5   ");
         Check.dueFault("sel ect ?x{}", 0);
         Check.dueFault("select ? x{}", 7);
@@ -99,7 +102,6 @@ public final class TextSentencesTest {
     }
 
     private static void wordTokens() {
-        Check.sentence("a WORD, as many small letters as stand together");
         Check.dueFault("selectx ?x{}", 0);
         Check.dueFault("selec ?x{}", 0);
         Check.dueFault("select ?x{}orderby ?x", 11);
@@ -109,7 +111,6 @@ public final class TextSentencesTest {
     }
 
     private static void numberTokens() {
-        Check.sentence("a NUMBER, as many digits");
         TripleStore store = Check.storeOf("a b 12");
         Check.dueRows(store, "select ?x{?x b 12}", "a");
         Check.dueRows(store, "select ?x{a b?x.filter?x=0012}", "12");
@@ -119,7 +120,6 @@ public final class TextSentencesTest {
     }
 
     private static void variableTokens() {
-        Check.sentence("a VARIABLE, ? and the letters behind it");
         Check.dueGood("select?x?y{?x?y?z}");
         Check.dueFault("select ?x7{}", 9);
         Check.dueFault("select ?xY{}", 9);
@@ -128,7 +128,6 @@ public final class TextSentencesTest {
     }
 
     private static void signTokens() {
-        Check.sentence("and { } . = < > ! each");
         Check.dueGood("select?x{{{}}}");
         Check.dueFault("select ?x{filter a<>b}", 19);
         Check.dueFault("select ?x{filter a!=b}", 19);
@@ -148,7 +147,6 @@ public final class TextSentencesTest {
     }
 
     private static void longWords() {
-        Check.sentence("A WORD of more than 8 letters ... can not stand anywhere.");
         dueNowhere("abcdefghi");
         dueNowhere("distincts");
         dueNowhere("a".repeat(20));
@@ -156,7 +154,6 @@ public final class TextSentencesTest {
     }
 
     private static void longNumbers() {
-        Check.sentence("a NUMBER of more than 4 digits ... can not stand anywhere.");
         dueNowhere("10000");
         dueNowhere("00000");
         dueNowhere("4294967301");
@@ -166,7 +163,6 @@ public final class TextSentencesTest {
     }
 
     private static void variablesOfNoOrManyLetters() {
-        Check.sentence("a VARIABLE with none or more than 8 letters ... can not stand anywhere.");
         dueNowhere("?");
         dueNowhere("?abcdefghi");
         Check.dueFault("select ?", 7);
@@ -175,7 +171,6 @@ public final class TextSentencesTest {
     }
 
     private static void otherCharacters() {
-        Check.sentence("and other characters can not stand anywhere");
         for (char c : OTHERS.toCharArray()) {
             dueNowhere(String.valueOf(c));
             Check.dueFault("select ?x{a b" + c + "c}", 13);
@@ -183,7 +178,6 @@ public final class TextSentencesTest {
     }
 
     private static void keys() {
-        Check.sentence("The words select distinct order desc limit filter optional minus union not bound are KEYS");
         for (String key : KEYS) {
             Check.dueFault("select ?x{a " + key + " b}", 12);
             Check.dueFault("select ?x{a b " + key + "}", 14);
@@ -196,7 +190,6 @@ public final class TextSentencesTest {
     }
 
     private static void otherWords() {
-        Check.sentence("other words are terms");
         for (String key : KEYS) {
             String shorter = key.substring(1);
             String other = key.substring(0, key.length() - 1) + "q";
@@ -208,8 +201,6 @@ public final class TextSentencesTest {
     }
 
     private static void wholeQuery() {
-        Check.sentence("QUERY: select [distinct] VARIABLE <VARIABLE> GROUP [order VARIABLE [desc]] [limit NUMBER] "
-            + "and nothing more.");
         Check.dueGood("select ?x{}");
         Check.dueGood("select distinct ?x ?y{}order ?z desc limit 0");
         Check.dueGood("select ?x{}limit 1");
@@ -240,7 +231,6 @@ public final class TextSentencesTest {
     }
 
     private static void groups() {
-        Check.sentence("GROUP: { [ELEMENT <. ELEMENT>] }.");
         Check.dueGood("select ?x{}");
         Check.dueGood("select ?x{a b c}");
         Check.dueGood("select ?x{a b c.a b c.{a b c.{}}}");
@@ -256,8 +246,6 @@ public final class TextSentencesTest {
     }
 
     private static void elements() {
-        Check.sentence("ELEMENT: a PATTERN of three TERMS or VARIABLES; filter TEST; optional GROUP; minus GROUP; "
-            + "GROUP <union GROUP>.");
         Check.dueGood("select ?x{a b c.1 2 3.?x ?y ?z.a 1 ?x}");
         Check.dueFault("select ?x{a}", 11);
         Check.dueFault("select ?x{a b}", 13);
@@ -279,7 +267,6 @@ public final class TextSentencesTest {
     }
 
     private static void tests() {
-        Check.sentence("TEST: not TEST; bound VARIABLE; or a SIDE, one of = < > !, a SIDE, each a term or a VARIABLE.");
         Check.dueGood("select ?x{filter a=1.filter 1<?x.filter ?x>a.filter ?x!?x}");
         Check.dueGood("select ?x{filter not not bound ?x.filter not a=a}");
         Check.dueFault("select ?x{filter not}", 20);
@@ -298,7 +285,6 @@ public final class TextSentencesTest {
     }
 
     private static void firstFault() {
-        Check.sentence("THE FAULT is at the first token that can not stand there");
         Check.dueFault("select ?x{A B C}D", 10);
         Check.dueFault("select ?x{a b }c}", 14);
         Check.dueFault("select ?x{a b c}} ~", 16);
@@ -311,7 +297,6 @@ public final class TextSentencesTest {
     }
 
     private static void lackingToken() {
-        Check.sentence("(where one lacks, behind the last one's end");
         for (int tokens = 1; tokens <= WHOLE.length; tokens++) {
             String text = String.join(" ", Arrays.asList(WHOLE).subList(0, tokens));
             if (ENDS.contains(tokens)) {
@@ -328,7 +313,6 @@ public final class TextSentencesTest {
     }
 
     private static void emptyText() {
-        Check.sentence("0 in an empty text)");
         TripleStore store = new TripleStore();
         Check.due("at first", Check.ask(store, ""), "fault 0");
         Check.due("a fault elsewhere", Check.ask(store, "select"), "fault 6");
@@ -338,7 +322,6 @@ public final class TextSentencesTest {
     }
 
     private static void seventhVariable() {
-        Check.sentence("or that is one too many: the 7th different VARIABLE");
         String six = "select ?a?b?c?d?e?f{";
         Check.dueGood(six + "?a?b?c.?d?e?f.filter?a=?f.filter bound?b}order?c");
         Check.dueFault(six + "?g?a?b}", 20);
@@ -359,7 +342,6 @@ public final class TextSentencesTest {
     }
 
     private static void seventhSelected() {
-        Check.sentence("a 7th selected one");
         Check.dueGood("select ?a?a?a?a?a?a{}");
         Check.dueFault("select ?a?a?a?a?a?a?a{}", 19);
         Check.dueFault("select ?a?b?a?b?a?b?b{}", 19);
@@ -368,7 +350,6 @@ public final class TextSentencesTest {
     }
 
     private static void thirteenthElement() {
-        Check.sentence("the 13th ELEMENT (its first token)");
         String twelve = "select ?x{" + "a b c.".repeat(11) + "a b c";
         Check.dueGood(twelve + "}");
         for (String element : new String[] {"a b c", "1 b c", "?x b c", "filter a=a", "optional{}", "minus{}", "{}",
@@ -388,7 +369,6 @@ public final class TextSentencesTest {
     }
 
     private static void thirteenthElementOfAll() {
-        Check.sentence("the 13th ELEMENT");
         String eleven = "select ?x{" + "a b c.".repeat(11);
         Check.dueGood(eleven + "{}}");
         Check.dueFault(eleven + "{a b c}}", eleven.length() + 1);
@@ -402,7 +382,6 @@ public final class TextSentencesTest {
     }
 
     private static void fifthGroupWithin() {
-        Check.sentence("the { of a GROUP that would be the 5th within one another (the first GROUP is one)");
         Check.dueGood("select ?x{{{{}}}}");
         Check.dueFault("select ?x{{{{{}}}}}", 13);
         Check.dueGood("select ?x{optional{minus{{}}}}");
@@ -416,7 +395,6 @@ public final class TextSentencesTest {
     }
 
     private static void thirteenthGroup() {
-        Check.sentence("or of a 13th one of one ELEMENT");
         String twelve = "select ?x{" + "{}union".repeat(11) + "{}";
         Check.dueGood(twelve + "}");
         Check.dueFault(twelve + "union{}}", twelve.length() + 5);
@@ -435,7 +413,6 @@ public final class TextSentencesTest {
     }
 
     private static void fifthNot() {
-        Check.sentence("a 5th not one behind another");
         Check.dueGood("select ?x{filter not not not not a=a}");
         Check.dueGood("select ?x{filter not not not not bound?x}");
         Check.dueFault("select ?x{filter not not not not not a=a}", 33);
