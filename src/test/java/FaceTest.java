@@ -7,9 +7,11 @@ import java.util.TreeSet;
 
 /** The public face, and promise 1: what a new object is. */
 public final class FaceTest {
-    private static final String FACE = "add(long,long,long)int append(long,int)int ask()int begin()int "
-            + "cell(int,int)long commit()int count(int)int crash(int)int fault()int "
-            + "remove(long,long,long)int rollback()int sync()int";
+    private static final String FACE = "add(long,long,long)int!IllegalArgument!IllegalState "
+            + "append(long,int)int!IllegalArgument!IllegalState ask()int!IllegalArgument!IllegalState "
+            + "begin()int!IllegalState cell(int,int)long!NoSuchElement!UnsupportedOperation commit()int!IllegalState "
+            + "count(int)int!IllegalArgument crash(int)int!IllegalArgument fault()int "
+            + "remove(long,long,long)int!IllegalArgument rollback()int!IllegalState sync()int";
 
     public static void main(String[] args) {
         face();
@@ -24,7 +26,8 @@ public final class FaceTest {
             if (!Modifier.isPrivate(method.getModifiers()) && !method.isSynthetic()) {
                 String types = Arrays.toString(method.getParameterTypes());
                 open.add(method.getName() + "(" + types.substring(1, types.length() - 1).replace(" ", "")
-                        + ")" + method.getReturnType());
+                        + ")" + method.getReturnType() + thrown(method));
+                Check.due("public " + method.getName(), Modifier.isPublic(method.getModifiers()), true);
             }
         }
         Check.due("the open methods", String.join(" ", open), FACE);
@@ -36,6 +39,14 @@ public final class FaceTest {
         Check.due("its parameters", made[0].getParameterCount(), 0);
         Check.due("public", Modifier.isPublic(made[0].getModifiers()), true);
         Check.due("final", Modifier.isFinal(TripleStore.class.getModifiers()), true);
+    }
+
+    private static String thrown(Method method) {
+        StringBuilder names = new StringBuilder();
+        for (Class<?> type : method.getExceptionTypes()) {
+            names.append('!').append(type.getSimpleName().replace("Exception", ""));
+        }
+        return names.toString();
     }
 
     private static void newObject() {
